@@ -47,6 +47,7 @@ public final class MarginCourt {
     private static final class Kind {
         /** The latest price stands last. */
         private final int[] lastPrices = new int[PRICES_KEPT];
+        private int haircut = LEAST_HAIRCUT;
 
         private Kind() {
             // As long as fewer prices were told, the first one is among them:
@@ -141,7 +142,8 @@ public final class MarginCourt {
             prices[i - 1] = prices[i];
         }
         prices[PRICES_KEPT - 1] = price;
-        return haircutOf(kind);
+        kinds[kind].haircut = haircutBy(prices, price);
+        return kinds[kind].haircut;
     }
 
     // ---- money and collateral
@@ -232,9 +234,12 @@ public final class MarginCourt {
     public int hour() {
         int failures = 0;
         for (int member = 0; member < MEMBERS; member++) {
-            if (!accounts[member].failed) {
-                endHourOf(member);
-                failures += accounts[member].failed ? 1 : 0;
+            if (!accounts[member].failed && countHour(member) >= HOURS_TO_CLOSING) {
+                closeOut(member);
+                if (freeOf(member) < 0) {
+                    fail(member);
+                    failures++;
+                }
             }
         }
         return failures;
@@ -292,7 +297,7 @@ public final class MarginCourt {
 
     public int haircut(int kind) throws IllegalArgumentException {
         demandKind(kind);
-        return haircutOf(kind);
+        return kinds[kind].haircut;
     }
 
     public int collateral(int member) throws IllegalArgumentException {
@@ -445,11 +450,7 @@ public final class MarginCourt {
 
     /** By how much the position is worth more than was paid for it. */
     private long differenceOf(Account account, int product) {
-        return valueOf(account, product) - account.paidSums[product];
-    }
-
-    private long valueOf(Account account, int product) {
-        return (long) account.positions[product] * products[product].price;
+        return (long) account.positions[product] * products[product].price - account.paidSums[product];
     }
 
     private long gainOf(int member, Trade trade) {
@@ -470,15 +471,13 @@ public final class MarginCourt {
 
     private long worthOf(int kind, int units) {
         int price = kinds[kind].lastPrices[PRICES_KEPT - 1];
-        return (long) units * price * (WHOLE - haircutOf(kind)) / WHOLE;
+        return (long) units * price * (WHOLE - kinds[kind].haircut) / WHOLE;
     }
 
-    private int haircutOf(int kind) {
-        int[] prices = kinds[kind].lastPrices;
-        int last = prices[PRICES_KEPT - 1];
+    private static int haircutBy(int[] prices, int last) {
         int greatest = last;
         int least = last;
-        for (int i = 0; i < PRICES_KEPT; i++) {
+        for (int i = 0; i < prices.length; i++) {
             greatest = Math.max(greatest, prices[i]);
             least = Math.min(least, prices[i]);
         }
@@ -495,23 +494,19 @@ public final class MarginCourt {
             lossesByMove[move] = 0;
         }
         for (int product = 0; product < PRODUCTS; product++) {
-            addLosses(member, product);
+            long position = accounts[member].positions[product];
+            long bought = position + restOf(member, product, true);
+            long sold = position - restOf(member, product, false);
+            for (int move = 0; move < MOVES; move++) {
+                long change = products[product].moves[move];
+                lossesByMove[move] += Math.max(-bought * change, -sold * change);
+            }
         }
         long worst = 0;
         for (int move = 0; move < MOVES; move++) {
             worst = Math.max(worst, lossesByMove[move]);
         }
         return worst;
-    }
-
-    private void addLosses(int member, int product) {
-        long position = accounts[member].positions[product];
-        long bought = position + restOf(member, product, true);
-        long sold = position - restOf(member, product, false);
-        int[] moves = products[product].moves;
-        for (int move = 0; move < MOVES; move++) {
-            lossesByMove[move] += Math.max(-bought * moves[move], -sold * moves[move]);
-        }
     }
 
     private long restOf(int member, int product, boolean buys) {
@@ -536,8 +531,10 @@ public final class MarginCourt {
     private long netPositions(Account account) {
         long change = 0;
         for (int product = 0; product < PRODUCTS; product++) {
-            change += differenceOf(account, product);
-            account.paidSums[product] = valueOf(account, product);
+            long difference = differenceOf(account, product);
+            change += difference;
+            // With it the paid sum is the position times the price.
+            account.paidSums[product] += difference;
         }
         account.cash += change;
         return change;
@@ -545,28 +542,24 @@ public final class MarginCourt {
 
     // ---- calls and closing out
 
-    private void endHourOf(int member) {
+    /** Returns since how many hours the member is called, this one counted. */
+    private int countHour(int member) {
         Account account = accounts[member];
         if (freeOf(member) >= 0) {
             account.hoursCalled = NOT_CALLED;
-            return;
+        } else {
+            // One that is not called stands one below 0 hours, so the same step begins a call.
+            account.hoursCalled++;
         }
-        // One that is not called stands one below 0 hours, so the same step begins a call.
-        account.hoursCalled++;
-        if (account.hoursCalled >= HOURS_TO_CLOSING) {
-            closeOut(member);
-        }
+        return account.hoursCalled;
     }
 
     private void closeOut(int member) {
         accounts[member].hoursCalled = NOT_CALLED;
         cancelOrdersOf(member);
         int[] sequence = productsByRisk(member);
-        for (int i = 0; i < PRODUCTS && freeOf(member) < 0; i++) {
+        for (int i = 0; i < sequence.length && freeOf(member) < 0; i++) {
             closePosition(member, sequence[i]);
-        }
-        if (freeOf(member) < 0) {
-            fail(member);
         }
     }
 
@@ -619,7 +612,9 @@ public final class MarginCourt {
         Account account = accounts[member];
         account.failed = true;
         for (int product = 0; product < PRODUCTS; product++) {
-            handOver(member, product);
+            if (account.positions[product] != 0) {
+                handOver(member, memberWithMostFree(), product);
+            }
         }
         sellCollateral(member);
         netPositions(account);
@@ -628,12 +623,8 @@ public final class MarginCourt {
         }
     }
 
-    private void handOver(int failed, int product) {
+    private void handOver(int failed, int taker, int product) {
         int position = accounts[failed].positions[product];
-        if (position == 0) {
-            return;
-        }
-        int taker = memberWithMostFree();
         int price = products[product].price;
         if (taker == NOBODY) {
             drop(failed, product, position, price);

@@ -9,6 +9,7 @@ public final class HoursTest {
         promise14NegativeRisks();
         promise14ClosedUntilFree();
         promise14WhateverTheLimit();
+        promise14PositionOfOne();
         promise17TakenOver();
         promise17TakersChange();
         promise13TakingOverIsATrade();
@@ -18,6 +19,7 @@ public final class HoursTest {
         promise26Rounding();
         promise26RoundingGoesOn();
         promise26JustEnough();
+        promise26MemberZeroPaysToo();
         promise27Unpaid();
         promise17CollateralSold();
         promise26FailedSharesAreLeftAlone();
@@ -117,7 +119,7 @@ public final class HoursTest {
         Check.due("then something is free", court.position(0, 0), 10);
         Check.due("the taker", court.position(4, 2), 10);
         Check.due("free then", court.free(0), 0);
-        MarginCourt other = twoLongs(1, -11, 3, -10);
+        MarginCourt other = twoLongs(0, -11, 3, -10);
         other.pay(0, 100);
         hours(other, 3);
         Check.due("the other way round", other.position(0, 0), 0);
@@ -196,6 +198,22 @@ public final class HoursTest {
         Check.due("trades", court.trades(), 4);
         Check.due("cash", court.cash(0), 0);
         Check.due("equityByTrades", court.equityByTrades(0), 0);
+    }
+
+    private static void promise14PositionOfOne() {
+        MarginCourt court = new MarginCourt();
+        trade(court, 0, 1, 0, 100, 1);
+        trade(court, 1, 0, 1, 100, 1);
+        court.setMove(0, 0, -10);
+        court.setMove(0, 1, 5);
+        court.pay(2, 2000);
+        court.place(2, 0, true, 100, 100);
+        court.place(2, 1, false, 100, 100);
+        Check.due("no member fails", hours(court, 3), 0);
+        Check.due("long one is closed", court.position(0, 0), 0);
+        Check.due("short one is closed", court.position(0, 1), 0);
+        Check.due("no more than that: to buy", court.left(4), 99);
+        Check.due("no more than that: to sell", court.left(5), 99);
     }
 
     private static void promise17TakenOver() {
@@ -340,6 +358,22 @@ public final class HoursTest {
         loseWithFund(more, 38, 7, 11, 0, 13, 6);
         dueShares("all of it", more, 0, 0, 0, 0, 0);
         Check.due("unpaid", more.unpaid(), 1);
+    }
+
+    private static void promise26MemberZeroPaysToo() {
+        MarginCourt court = new MarginCourt();
+        court.contribute(0, 10);
+        court.contribute(1, 10);
+        court.contribute(3, 10);
+        trade(court, 2, 4, 0, 120, 1);
+        Check.due("member 2 fails", hours(court, 3), 1);
+        dueShares("the lowest pays what rounding left", court, 2, 4, 0, 4, 0);
+        MarginCourt alone = new MarginCourt();
+        alone.contribute(0, 1);
+        trade(alone, 4, 3, 0, 101, 1);
+        Check.due("member 4 fails", hours(alone, 3), 1);
+        dueShares("one alone", alone, 0, 0, 0, 0, 0);
+        Check.due("unpaid", court.unpaid() + alone.unpaid(), 0);
     }
 
     private static void promise27Unpaid() {

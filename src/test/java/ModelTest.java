@@ -74,13 +74,12 @@ public final class ModelTest {
         return false;
     }
 
-    /** Of the class it asks, too, that its own lines throw, and just what is told. */
+    /** Of MarginCourt (strict) it asks, too, that its own lines throw, and only what the document tells. */
     private static String answer(LongSupplier call, boolean strict) {
         try {
             return Long.toString(call.getAsLong());
         } catch (RuntimeException thrown) {
-            String by = thrown.getStackTrace().length == 0 ? "" : thrown.getStackTrace()[0].getClassName();
-            if (strict && !(TOLD.contains(thrown.getClass()) && by.startsWith("MarginCourt"))) {
+            if (strict && !(TOLD.contains(thrown.getClass()) && Check.isFromOwnLines(thrown))) {
                 return "the machine's " + thrown;
             }
             return "throws." + thrown.getClass().getSimpleName();

@@ -138,9 +138,10 @@ public final class OrdersTest {
         court.place(0, 0, true, 90, 9);
         court.place(1, 0, false, 110, 9);
         court.place(2, 1, false, 110, 9);
+        court.place(3, 0, true, 80, 1);
         Check.due("margin ahead", court.margin(1), 180);
         Check.due("letting go on cancels none", court.halt(0, false), 0);
-        Check.due("halting cancels those that rest", court.halt(0, true), 2);
+        Check.due("halting cancels those that rest", court.halt(0, true), 3);
         Check.due("margin is freed", court.margin(1), 90);
         Check.due("halting again", court.halt(0, true), 0);
         Check.due("left 2", court.left(2), 0);
@@ -148,9 +149,9 @@ public final class OrdersTest {
         Check.due("other products stay", court.left(4), 9);
         Check.due("positions stay", court.position(0, 0), 9);
         Check.badState("none can be placed", () -> court.place(0, 0, true, 1, 1));
-        Check.due("but for others", court.place(0, 1, true, 1, 1), 5);
+        Check.due("but for others", court.place(0, 1, true, 1, 1), 6);
         Check.due("goes on", court.halt(0, false), 0);
-        Check.due("placed again", court.place(0, 0, true, 1, 1), 6);
+        Check.due("placed again", court.place(0, 0, true, 1, 1), 7);
         Check.illegal("halt(-1)", () -> court.halt(-1, true));
         Check.illegal("halt(3)", () -> court.halt(3, false));
     }
