@@ -17,6 +17,7 @@ public final class FailureEdgesTest {
         proportionOfGreatSums();
         theLowestMayBeMemberZero();
         sharesOfFailedOnesAreLeftAlone();
+        sharesOfFailedOnesDoNotCountInTheProportion();
         aLossOfZeroAsksNobody();
         severalInOneHour();
         allFailInOneHour();
@@ -287,6 +288,24 @@ public final class FailureEdgesTest {
             Steps.trade(court, 2, 4, 1, 100 + losses[i], 1);
             Check.due("fails with " + losses[i], Steps.hours(court, 3), 1);
             dueFund(Math.max(0, losses[i] - 6), court, 7, 3 - paidByFirst[i], 0, 3 - paidByThird[i], 0);
+        }
+    }
+
+    /** Member 0 fails first and keeps a share of 20; member 2, that fails then, had none: 1 and 3 pay by 10 to 30. */
+    private static void sharesOfFailedOnesDoNotCountInTheProportion() {
+        int[] losses = {4, 8, 20, 39, 40, 41};
+        int[] paidByFirst = {1, 2, 5, 10, 10, 10};
+        for (int i = 0; i < losses.length; i++) {
+            MarginCourt court = new MarginCourt();
+            court.contribute(0, 25);
+            Steps.trade(court, 0, 4, 0, 105, 1);
+            Check.due("fails with 5", Steps.hours(court, 3), 1);
+            court.contribute(1, 10);
+            court.contribute(3, 30);
+            Steps.trade(court, 2, 4, 1, 100 + losses[i], 1);
+            Check.due("fails with " + losses[i], Steps.hours(court, 3), 1);
+            int paidByThird = Math.min(losses[i], 40) - paidByFirst[i];
+            dueFund(Math.max(0, losses[i] - 40), court, 20, 10 - paidByFirst[i], 0, 30 - paidByThird, 0);
         }
     }
 
